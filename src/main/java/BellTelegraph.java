@@ -577,7 +577,6 @@ public final class BellTelegraph {
             at = itsFrom;
             how = UNDER_WAY;
             hourSent = hour;
-            signCount = 0;
             makeDue(0);
         }
 
@@ -598,6 +597,15 @@ public final class BellTelegraph {
             place = itsPlace;
             hoursRung = 0;
             isHeard = true;
+        }
+
+        boolean isRungOut() {
+            return place >= signCount;
+        }
+
+        /** The sign that is due, or 0 if it is lost. */
+        int dueSign() {
+            return isRungOut() ? 0 : signs[place];
         }
 
         int nextConvent() {
@@ -877,7 +885,7 @@ public final class BellTelegraph {
                     listenersRungTo |= 1 << listener;
                     ringer.hoursRung++;
                     ring(messages[number], listener, isFirst && isHeardBetween(k, listener));
-                    if (messages[number].place == messages[number].signCount) {
+                    if (messages[number].isRungOut() && goingCount < MOST_CONVENTS) {
                         going[goingCount] = number;
                         goingCount++;
                     }
@@ -892,7 +900,7 @@ public final class BellTelegraph {
 
         /** Rings the sign that is due for an hour; behind its last hour the next place is due. */
         void ring(Message message, int listener, boolean isHeard) {
-            int sign = message.signs[message.place];
+            int sign = message.dueSign();
             if (sign == 0) {
                 message.makeDue(message.place + 1);
                 return;
@@ -914,11 +922,17 @@ public final class BellTelegraph {
             message.at = message.nextConvent();
             message.makeDue(0);
             if (message.at == message.to) {
-                message.how = ARRIVED;
-                arrivals[arrivedCount] = number;
-                arrivedCount++;
+                arrive(number);
             } else {
                 convents[message.at].join(number);
+            }
+        }
+
+        void arrive(int number) {
+            messages[number].how = ARRIVED;
+            if (arrivedCount < MOST_MESSAGES) {
+                arrivals[arrivedCount] = number;
+                arrivedCount++;
             }
         }
 

@@ -1,3 +1,5 @@
+import java.util.NoSuchElementException;
+
 /** The promises 32 to 37: means and shares, accounts, undo, and the snapshot. */
 public final class SumTest {
     public static void main(String[] args) {
@@ -9,6 +11,12 @@ public final class SumTest {
         undoOfEachChange();
         undoOfEightCalls();
         whatIsForgottenStaysSo();
+        whatComesInPlaceOfTheUndone(false);
+        whatComesInPlaceOfTheUndone(true);
+        restoreInPlaceOfOthers();
+        undoOfEachPsalm();
+        aFullTelegraph();
+        whatIsLostAtTheFirstConvent();
         undoInTheMidstOfASign();
         saveAndRestore();
         restoreForgetsWhatCanBeUndone();
@@ -161,6 +169,115 @@ public final class SumTest {
         }
         Due.is("the hour of the earliest one that is kept", x.account(0), 2);
         Due.isThrown("one that was forgotten", IllegalStateException.class, () -> x.undo());
+    }
+
+    /** What is undone leaves nothing behind for what comes in its place. */
+    private static void whatComesInPlaceOfTheUndone(boolean isRestored) {
+        BellTelegraph x = Given.codedRow(2);
+        x.save();
+        x.convent(3, 9, 2);
+        x.silence(2, 3, 1);
+        x.send(0, 2, 1);
+        x.send(2, 1, 45);
+        x.send(2, 0, 4);
+        x.ear(2, 0);
+        x.hours(2);
+        x.drop(1);
+        Due.is("the hours that it rang", x.conventOf(2, 5), 1);
+        Due.is("the signs that were lost there", x.conventOf(2, 6), 1);
+        for (int k = 0; k < 8 && !isRestored; k++) {
+            x.undo();
+        }
+        if (isRestored) {
+            x.restore();
+        }
+        Due.isThrown("an arrival that was undone", NoSuchElementException.class, () -> x.arrived(0));
+        x.hours(3);
+        x.convent(7, 8, 9);
+        int[] convent = {7, 8, 0, 0, 0, 0, 0, 0};
+        for (int what = 0; what <= 7; what++) {
+            Due.is("conventOf(2, " + what + ") in place of it", x.conventOf(2, what), convent[what]);
+        }
+        Due.isThrown("one that waited there", NoSuchElementException.class, () -> x.waiting(2, 0));
+        x.send(1, 0, 3);
+        x.send(0, 2, 5);
+        int[] message = {0, 2, 0, 1, 0, 0, 0, 0, 3};
+        for (int what = 0; what <= 8; what++) {
+            Due.is("messageOf(1, " + what + ") in place of it", x.messageOf(1, what), message[what]);
+        }
+    }
+
+    private static void restoreInPlaceOfOthers() {
+        BellTelegraph x = Given.codedRow(2);
+        x.convent(3, 9, 2);
+        x.send(2, 1, 1);
+        x.send(0, 1, 2);
+        x.send(1, 0, 4);
+        x.hours(2);
+        x.silence(2, 5, 9);
+        x.save();
+        String saved = Given.state(x);
+        for (int k = 0; k < 6; k++) {
+            x.undo();
+        }
+        x.convent(4, 8, 5);
+        x.wind(1, 6);
+        x.hours(3);
+        x.send(0, 1, 8);
+        x.send(2, 0, 5);
+        x.send(1, 2, 17);
+        x.hours(96);
+        x.restore();
+        Due.isText("the state that is restored", Given.state(x), saved);
+        Due.is("the first arrival", x.arrived(0), 0);
+        Due.is("the second arrival", x.arrived(1), 1);
+        Due.isThrown("a third arrival", NoSuchElementException.class, () -> x.arrived(2));
+        x.hours(2);
+        Due.is("the third arrival behind it", x.arrived(2), 2);
+    }
+
+    private static void undoOfEachPsalm() {
+        BellTelegraph x = new BellTelegraph();
+        for (int sign = 1; sign <= 8; sign++) {
+            x.code(sign, 10 * sign);
+            x.code(sign, 10 * sign + 1);
+            x.undo();
+            Due.is("the psalm of the sign " + sign, x.psalm(sign), 10 * sign);
+        }
+    }
+
+    /** As many convents and messages as there can be, each as long as it can be. */
+    private static void aFullTelegraph() {
+        BellTelegraph x = Given.codedRow(5);
+        x.convent(9, 0, 9);
+        for (int k = 0; k < 16; k++) {
+            x.send(k % 2 == 0 ? 5 : 4, k % 2 == 0 ? 4 : 5, 87654321);
+        }
+        Due.is("the bits of 8 signs", x.signs(15), 0x1fe);
+        Due.is("the last one that waits", x.waiting(5, 7), 14);
+        Due.is("the last rank", x.ranked(15), 15);
+        Due.is("the messages that arrive in 96 hours", x.hours(96), 8);
+        Due.is("the messages that arrive in 64 more", x.hours(64), 8);
+        for (int place = 0; place < 16; place++) {
+            Due.is("the arrival " + place, x.arrived(place), place ^ 1);
+        }
+        Due.is("lost", x.lost(), 128);
+        Due.is("lostAgain", x.lostAgain(), 128);
+        Due.is("the share", x.lostShare(), 1.0);
+        Due.is("the mean ear", x.meanEar(), 45f / 6f);
+        Due.is("the hours that all rang", x.account(8), 320);
+        Due.is("those under way", x.account(5), 0);
+        Due.is("those that arrived", x.account(6), 16);
+    }
+
+    private static void whatIsLostAtTheFirstConvent() {
+        BellTelegraph x = Given.codedRow(2);
+        x.ear(0, 0);
+        x.send(1, 0, 15);
+        x.hours(2);
+        Due.is("lost at the first convent", x.conventOf(0, 6), 2);
+        Due.is("lost", x.lost(), 2);
+        Due.is("lostAgain", x.lostAgain(), 2);
     }
 
     private static void undoInTheMidstOfASign() {
