@@ -6,8 +6,14 @@ final class Due {
 
     private static int checks = 0;
     private static int wrong = 0;
+    private static String about = "";
 
     private Due() {
+    }
+
+    /** What stands ahead of each fault from now on. */
+    static void about(String words) {
+        about = words;
     }
 
     static void is(String what, double got, double want) {
@@ -60,7 +66,7 @@ final class Due {
 
     static void report(String fault) {
         wrong++;
-        System.out.println(fault);
+        System.out.println(about + fault);
     }
 
     /** Ends the program, with exit code 1 if an answer was not as due. */

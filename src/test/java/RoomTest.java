@@ -29,6 +29,7 @@ public final class RoomTest {
         Due.end("RoomTest");
     }
 
+    /** 6 + 8 + 16 + 28 * 14 + 28 * 3 = 506 calls, of the 512 that an object is used for. */
     private static void use(BellTelegraph x) {
         for (int k = 0; k < 6; k++) {
             x.convent(k, 9 - k, k + 1);
@@ -39,7 +40,7 @@ public final class RoomTest {
         for (int k = 0; k < 16; k++) {
             x.send(k % 6, (k + 3) % 6, 12345678);
         }
-        for (int k = 0; k < 30; k++) {
+        for (int k = 0; k < 28; k++) {
             Given.carryOut(x, "h1;e1=3");
             x.ranked(0);
             x.arrivesIn(x.ranked(0));
@@ -47,7 +48,7 @@ public final class RoomTest {
             x.line(0);
             x.save();
         }
-        for (int k = 0; k < 30; k++) {
+        for (int k = 0; k < 28; k++) {
             x.restore();
             x.hours(96);
             x.windIn(0, 200);

@@ -113,46 +113,68 @@ public final class SumTest {
         Due.is("the hour behind it", x.account(0), 0);
     }
 
-    private static void undoOfEachChange() {
+    private static BellTelegraph underWay() {
         BellTelegraph x = Given.codedRow(3);
         x.send(0, 2, 123);
         x.send(1, 0, 1);
-        x.hours(1);
-        x.undo();
-        isUndone(x, "convent", () -> x.convent(1, 2, 3));
-        isUndone(x, "code", () -> x.code(1, 100));
-        isUndone(x, "silence", () -> x.silence(0, 0, 9));
-        isUndone(x, "wind", () -> x.wind(1, 8));
-        isUndone(x, "ear", () -> x.ear(1, 3));
-        isUndone(x, "send", () -> x.send(2, 0, 8));
-        isUndone(x, "drop", () -> x.drop(0));
-        isUndone(x, "hours", () -> x.hours(96));
-        isUndone(x, "commands", () -> Given.carryOut(x, "e1=0;h50;w0=3;q1:3-9;s0>1:5"));
+        return x;
     }
 
-    private static void isUndone(BellTelegraph x, String what, Due.Call call) {
+    private static void undoOfEachChange() {
+        isUndone("convent", x -> x.convent(1, 2, 3));
+        isUndone("code", x -> x.code(1, 100));
+        isUndone("silence", x -> x.silence(0, 0, 9));
+        isUndone("wind", x -> x.wind(1, 8));
+        isUndone("ear", x -> x.ear(1, 3));
+        isUndone("send", x -> x.send(2, 0, 8));
+        isUndone("drop", x -> x.drop(0));
+        isUndone("hours", x -> x.hours(96));
+        isUndone("commands", x -> Given.carryOut(x, "e1=0;h50;w0=3;q1:3-9;s0>1:5"));
+    }
+
+    private static void isUndone(String what, Edge.Use change) {
+        BellTelegraph x = underWay();
+        x.undo();
+        x.hours(1);
+        x.undo();
         String before = Given.state(x);
-        int kept = x.account(10);
-        call.answer();
+        Due.is("what can be undone ahead of " + what, x.account(10), 7);
+        change.of(x);
         Due.isTrue(what + " changes something", !Given.state(x).equals(before));
-        Due.is("what can be undone after " + what, x.account(10), Math.min(kept + 1, 8));
-        Due.is("what can be undone after the undo of " + what, x.undo(), Math.min(kept, 7));
+        Due.is("what can be undone after " + what, x.account(10), 8);
+        Due.is("what can be undone after the undo of " + what, x.undo(), 7);
         Due.isText("the state after the undo of " + what, Given.state(x), before);
     }
 
     private static void undoOfEightCalls() {
         BellTelegraph x = Given.codedRow(3);
         x.send(0, 2, 44444444);
-        String[] states = new String[30];
         for (int k = 0; k < 30; k++) {
-            states[k] = Given.state(x);
             x.hours(k % 3 + 1);
         }
         for (int k = 29; k >= 22; k--) {
             Due.is("what can still be undone", x.undo(), k - 22);
-            Due.isText("the state before the change " + k, Given.state(x), states[k]);
+            Due.isText("how it is before the change " + k, told(x), told(rungFor(k)));
         }
         Due.isThrown("a ninth one", IllegalStateException.class, () -> x.undo());
+    }
+
+    private static BellTelegraph rungFor(int changes) {
+        BellTelegraph x = Given.codedRow(3);
+        x.send(0, 2, 44444444);
+        for (int k = 0; k < changes; k++) {
+            x.hours(k % 3 + 1);
+        }
+        return x;
+    }
+
+    /** Few of the numbers of a state, so that one object can be asked eight times. */
+    private static String told(BellTelegraph x) {
+        StringBuilder told = new StringBuilder("hour " + x.account(0) + ", hours rung " + x.account(8) + ", message");
+        for (int what = 2; what <= 7; what++) {
+            told.append(' ').append(x.messageOf(0, what));
+        }
+        return told + ", wind " + x.ridgeOf(0, 1) + " " + x.ridgeOf(1, 1);
     }
 
     private static void whatIsForgottenStaysSo() {
