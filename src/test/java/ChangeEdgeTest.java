@@ -253,12 +253,14 @@ public final class ChangeEdgeTest {
 
     @Says(promise = 7, value = "its signs as the digits of a number, 1 to 8 digits from 1 to 8 each")
     static void theDigitsOfAMessageAreFrom1To8() {
-        for (int good : new int[] {1, 8, 11, 18, 81, 88, 11111111, 12345678, 18111118, 88888888}) {
+        int[] goods = {1, 8, 11, 18, 81, 88, 111, 888, 1111, 8888, 11111, 88888, 111111, 888888, 1111111, 8888888,
+            11111111, 12345678, 18111118, 88888888};
+        for (int good : goods) {
             BellTelegraph x = Given.codedRow(2);
             Due.is("the signs " + good, x.send(0, 1, good), 0);
             Due.isText("the message " + good, Given.line(x, 0), "0>1:" + good + "@0");
         }
-        int[] wrongs = {0, 9, 10, 19, 90, 91, 80, 108, 189, 10111111, 11111110, 11111119, 81111119, 88888889, 90000000,
+        int[] wrongs = {0, 9, 10, 19, 90, 91, 80, 108, 189, 801, 810, 1000, 8808, 10111111, 11111110, 11111119, 81111119, 88888889, 90000000,
             91111111, 100000000, 111111111, 888888888, 1111111111, 2111111111, -1, -8, -11111111, LEAST, MOST};
         for (int wrong : wrongs) {
             Edge.isRefused("the signs " + wrong, () -> Given.codedRow(2), 1, 0, y -> y.send(0, 1, wrong));

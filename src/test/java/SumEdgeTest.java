@@ -423,6 +423,39 @@ public final class SumEdgeTest {
         }
     }
 
+    @Says(promise = 37, value = "Restores what was saved; the snapshot is kept.")
+    static void aSnapshotComesInPlaceOfAllThatIsUnlikeIt() {
+        BellTelegraph x = new BellTelegraph();
+        fill(x, 1);
+        x.save();
+        String saved = Given.state(x);
+        for (int k = 0; k < 8; k++) {
+            x.undo();
+        }
+        Due.is("the convents that are undone", x.account(2), 0);
+        x.hours(7);
+        fill(x, 3);
+        Due.isTrue("all is unlike it", !Given.state(x).equals(saved));
+        x.restore();
+        Due.isText("what is restored", Given.state(x), saved);
+        BellTelegraph y = new BellTelegraph();
+        fill(y, 1);
+        Due.is("what arrives behind it", x.hours(3), y.hours(3));
+        Due.isText("what comes of it", Given.state(x), Given.state(y));
+    }
+
+    /** Eight changes, unlike for 1 and for 3, after which messages are arrived, in another order too. */
+    private static void fill(BellTelegraph x, int number) {
+        x.convent(number, 9 - number, number);
+        x.convent(number + 1, 8 - number, number + 1);
+        x.convent(number + 2, 7 - number, number + 2);
+        x.code(number, 4 * number);
+        x.code(number + 1, 4 * number + 1);
+        Given.carryOut(x, number == 1 ? "s0>1:1;s1>0:12" : "s1>2:34;s2>1:3");
+        x.silence(0, number, number + 20);
+        x.hours(number);
+    }
+
     // Exceptions
 
     @Says(promise = 10, terms = "Exceptions", value = "If several conditions of a method are fulfilled, the one that is listed first determines the exception.")

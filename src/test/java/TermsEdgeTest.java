@@ -118,6 +118,30 @@ public final class TermsEdgeTest {
         }
     }
 
+    @Says(promise = 10, terms = "Convents", value = "as at first.")
+    static void aConventInPlaceOfAnotherIsAsAtFirst() {
+        BellTelegraph x = Given.codedRow(2);
+        x.save();
+        x.convent(5, 5, 5);
+        x.ear(2, 0);
+        x.silence(2, 3, 1);
+        x.send(2, 1, 2);
+        x.send(1, 2, 1);
+        x.send(2, 0, 1);
+        x.hours(1);
+        Due.is("the hours that it rang in its silence", x.conventOf(2, 5), 0);
+        x.hours(2);
+        Due.is("the hours that it rang behind it", x.conventOf(2, 5), 2);
+        Due.is("the signs that were lost there", x.conventOf(2, 6), 1);
+        x.restore();
+        Due.is("the third convent again", x.convent(9, 9, 9), 2);
+        int[] due = {9, 9, 0, 0, 0, 0, 0, 0};
+        for (int what = 0; what <= 7; what++) {
+            Due.is("conventOf(2, " + what + ")", x.conventOf(2, what), due[what]);
+        }
+        Due.is("the length of the ridge", x.ridgeOf(1, 0), 9);
+    }
+
     // Ridges
 
     @Says(promise = 11, terms = "Ridges", value = "Between the convents k and k + 1 is the ridge k")
@@ -361,6 +385,24 @@ public final class TermsEdgeTest {
         x.hours(1);
         x.drop(2);
         Due.is("how it is when it is dropped", x.messageOf(2, 7), 2);
+    }
+
+    @Says(promise = 13, terms = "Messages", value = "A message is under way, 0, as at first")
+    static void aMessageInPlaceOfOneThatWasUndoneIsUnderWay() {
+        BellTelegraph x = Given.codedRow(3);
+        Given.carryOut(x, "s0>1:2;h96");
+        Due.is("how the one that is undone is", x.messageOf(0, 7), 1);
+        x.undo();
+        x.send(2, 0, 345);
+        int[] due = {2, 0, 2, 3, 0, 0, 0, 0, 0};
+        for (int what = 0; what <= 8; what++) {
+            Due.is("messageOf(0, " + what + ")", x.messageOf(0, what), due[what]);
+        }
+        x.undo();
+        Given.carryOut(x, "s0>1:2;d0");
+        x.undo();
+        x.send(0, 1, 2);
+        Due.is("how one in place of a dropped one is", x.messageOf(0, 7), 0);
     }
 
     @Says(promise = 16, terms = "Messages", value = "One that is under way waits at a convent, at first at that from which it is, behind those that wait there.")

@@ -221,6 +221,30 @@ public final class TextEdgeTest {
         isFault("s0>01:1", 4);
     }
 
+    @Says(promise = 28, terms = "Texts", value = "Hours and messages have 1 or 2 digits, other numbers one.")
+    static void theCharactersBesideTheDigitsAreFaults() {
+        for (char wrong : new char[] {'/', ':', '-', ' ', 'a', '\u0660', '\uff11'}) {
+            isFault("h" + wrong, 1);
+            isFault("h1" + wrong, 2);
+            isFault("d" + wrong, 1);
+            isFault("d1" + wrong, 2);
+            isFault("q" + wrong + ":1-2", 1);
+            isFault("q0:" + wrong + "-2", 3);
+            isFault("q0:1-" + wrong, 5);
+            isFault("q0:1-2" + wrong, 6);
+            isFault("w" + wrong + "=1", 1);
+            isFault("w0=" + wrong, 3);
+            isFault("e" + wrong + "=1", 1);
+            isFault("e0=" + wrong, 3);
+            isFault("s" + wrong + ">1:1", 1);
+            isFault("s0>" + wrong + ":1", 3);
+            isFault("s0>1:" + wrong, 5);
+            isFault("s0>1:1" + wrong, 6);
+        }
+        isFault("q0:1/2", 4);
+        isFault("q0:1:2", 4);
+    }
+
     @Says(promise = 28, terms = "Texts", value = "The fault position of a text is the index of its first character that cannot continue such a text")
     static void aFaultIsAtTheFirstOrAtTheLastCharacter() {
         for (String wrong : new String[] {"x", "1", "S0>1:1", "H1", "c1", ">", "@", " h1", "=", "?"}) {
