@@ -155,7 +155,7 @@ public final class BellTelegraph {
     }
 
     public int psalm(int sign) throws IllegalArgumentException {
-        if (sign < 1 || sign > HIGHEST_SIGN) {
+        if (!isSign(sign)) {
             throw new IllegalArgumentException();
         }
         return now.psalms[sign];
@@ -485,6 +485,10 @@ public final class BellTelegraph {
         return number >= 0 && number <= HIGHEST_DIGIT;
     }
 
+    private static boolean isSign(int number) {
+        return number >= 1 && number <= HIGHEST_SIGN;
+    }
+
     private static boolean isHourOfDay(int number) {
         return number >= 0 && number < HOURS_OF_DAY;
     }
@@ -531,6 +535,11 @@ public final class BellTelegraph {
                 return hourOfDay >= silentFrom && hourOfDay < silentUntil;
             }
             return hourOfDay >= silentFrom || hourOfDay < silentUntil;
+        }
+
+        /** The message that waits here first, or NONE. */
+        int firstWaiting() {
+            return waitingCount > 0 ? queue[0] : NONE;
         }
 
         void join(int message) {
@@ -605,11 +614,17 @@ public final class BellTelegraph {
 
         /** The sign that is due, or 0 if it is lost. */
         int dueSign() {
-            return isRungOut() ? 0 : signs[place];
+            return place < signCount ? signs[place] : 0;
         }
 
-        int nextConvent() {
-            return to > at ? at + 1 : at - 1;
+        void loseDueSign() {
+            if (place < signCount) {
+                signs[place] = 0;
+            }
+        }
+
+        int nextFrom(int convent) {
+            return to > convent ? convent + 1 : convent - 1;
         }
 
         int lostSigns() {
@@ -662,8 +677,7 @@ public final class BellTelegraph {
         final Message[] messages = new Message[MOST_MESSAGES];
         int arrivedCount;
         final int[] arrivals = new int[MOST_MESSAGES];
-        // These two hold nothing between two calls, so takeFrom leaves them alone.
-        final int[] going = new int[MOST_CONVENTS];
+        // This one holds nothing between two calls, so takeFrom leaves it alone.
         final int[] spelled = new int[MOST_SIGNS];
 
         Network() {
@@ -745,7 +759,7 @@ public final class BellTelegraph {
         }
 
         int givePsalm(int sign, int psalm, Refusal refusal) {
-            if (sign < 1 || sign > HIGHEST_SIGN || psalm < 1 || psalm > HIGHEST_PSALM) {
+            if (!isSign(sign) || psalm < 1 || psalm > HIGHEST_PSALM) {
                 return refusal.because(OUT_OF_RANGE, 0);
             }
             for (int other = 1; other <= HIGHEST_SIGN; other++) {
@@ -839,7 +853,7 @@ public final class BellTelegraph {
             int rest = signs;
             for (int place = count - 1; place >= 0; place--) {
                 int digit = rest % 10;
-                if (digit < 1 || digit > HIGHEST_SIGN) {
+                if (!isSign(digit)) {
                     return 0;
                 }
                 spelled[place] = digit;
@@ -857,7 +871,9 @@ public final class BellTelegraph {
                 return refusal.because(NOT_UNDER_WAY, dropped.how);
             }
             dropped.how = DROPPED;
-            convents[dropped.at].leave(message);
+            if (hasConvent(dropped.at)) {
+                convents[dropped.at].leave(message);
+            }
             return dropped.at;
         }
 
@@ -873,27 +889,24 @@ public final class BellTelegraph {
         }
 
         void passHour() {
-            int goingCount = 0;
             int listenersRungTo = 0;
             int hourOfDay = hourOfDay();
             for (int k = 0; k < conventCount; k++) {
-                Convent ringer = convents[k];
-                if (ringer.waitingCount > 0 && !ringer.isSilentAt(hourOfDay)) {
-                    int number = ringer.queue[0];
-                    int listener = messages[number].nextConvent();
+                int number = convents[k].firstWaiting();
+                if (hasMessage(number) && !convents[k].isSilentAt(hourOfDay)) {
+                    int listener = messages[number].nextFrom(k);
                     boolean isFirst = (listenersRungTo >> listener & 1) == 0;
                     listenersRungTo |= 1 << listener;
-                    ringer.hoursRung++;
+                    convents[k].hoursRung++;
                     ring(messages[number], listener, isFirst && isHeardBetween(k, listener));
-                    if (messages[number].isRungOut() && goingCount < MOST_CONVENTS) {
-                        going[goingCount] = number;
-                        goingCount++;
-                    }
                 }
             }
             // Only now, so that no message is rung at two convents in one hour.
-            for (int k = 0; k < goingCount; k++) {
-                moveOn(going[k]);
+            for (int k = 0; k < conventCount; k++) {
+                int number = convents[k].firstWaiting();
+                if (hasMessage(number) && messages[number].isRungOut()) {
+                    moveOn(messages[number], number, k);
+                }
             }
             beginNextHour();
         }
@@ -901,35 +914,38 @@ public final class BellTelegraph {
         /** Rings the sign that is due for an hour; behind its last hour the next place is due. */
         void ring(Message message, int listener, boolean isHeard) {
             int sign = message.dueSign();
-            if (sign == 0) {
-                message.makeDue(message.place + 1);
-                return;
-            }
             message.hoursRung++;
             message.isHeard = message.isHeard && isHeard;
-            if (message.hoursRung > psalms[sign] % 4) {
-                if (!message.isHeard) {
-                    message.signs[message.place] = 0;
+            if (message.hoursRung < hoursOf(sign)) {
+                return;
+            }
+            if (isSign(sign) && !message.isHeard) {
+                message.loseDueSign();
+                if (hasConvent(listener)) {
                     convents[listener].signsLost++;
                 }
-                message.makeDue(message.place + 1);
             }
+            message.makeDue(message.place + 1);
         }
 
-        void moveOn(int number) {
-            Message message = messages[number];
-            convents[message.at].leave(number);
-            message.at = message.nextConvent();
+        /** For how many hours a sign is rung; one that is lost, whatever it was, for 1. */
+        int hoursOf(int sign) {
+            return sign >= 1 && sign <= HIGHEST_SIGN ? psalms[sign] % 4 + 1 : 1;
+        }
+
+        void moveOn(Message message, int number, int convent) {
+            convents[convent].leave(number);
+            message.at = message.nextFrom(convent);
             message.makeDue(0);
             if (message.at == message.to) {
-                arrive(number);
-            } else {
+                arrive(message, number);
+            } else if (hasConvent(message.at)) {
                 convents[message.at].join(number);
             }
         }
 
-        void arrive(int number) {
-            messages[number].how = ARRIVED;
+        void arrive(Message message, int number) {
+            message.how = ARRIVED;
             if (arrivedCount < MOST_MESSAGES) {
                 arrivals[arrivedCount] = number;
                 arrivedCount++;
@@ -945,13 +961,15 @@ public final class BellTelegraph {
             }
         }
 
+        /** Asked only of two convents that are next to each other, so that there is a ridge between them. */
         int strengthBetween(int ringer, int listener) {
             Ridge ridge = ridges[ringer < listener ? ringer : listener];
             return FULL_STRENGTH - convents[ringer].tone + convents[listener].ear - 2 * ridge.length - ridge.wind;
         }
 
         boolean isHeardBetween(int ringer, int listener) {
-            return convents[listener].ear != 0 && strengthBetween(ringer, listener) >= HEARD_STRENGTH;
+            return hasConvent(listener) && convents[listener].ear != 0
+                && strengthBetween(ringer, listener) >= HEARD_STRENGTH;
         }
 
         int countAheadInRank(int message) {
